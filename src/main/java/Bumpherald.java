@@ -56,7 +56,7 @@ public final class Bumpherald {
         if (!isWithin(version, 1, MOST_VERSION)) {
             throw new IllegalArgumentException("no such version");
         }
-        if (packages.count == MOST_PACKAGES) {
+        if (packages.count >= MOST_PACKAGES) {
             throw new IllegalStateException("no more packages");
         }
         return packages.add(version);
@@ -72,7 +72,7 @@ public final class Bumpherald {
         if (!isWithin(packages.versions[other] - packages.versions[one], least, most)) {
             throw new IllegalStateException("the need does not hold now");
         }
-        if (packages.needCount == MOST_NEEDS) {
+        if (packages.needCount >= MOST_NEEDS) {
             throw new IllegalStateException("no more needs");
         }
         return packages.addNeed(one, other, least, most);
@@ -101,7 +101,7 @@ public final class Bumpherald {
         if (!isWithin(packages, 1, ALL_PACKAGES) || !isWithin(from, 0, LAST_DAY) || !isWithin(to, from, LAST_DAY)) {
             throw new IllegalArgumentException("no such freeze");
         }
-        if (freezes.count == MOST_FREEZES) {
+        if (freezes.count >= MOST_FREEZES) {
             throw new IllegalStateException("no more freezes");
         }
         return freezes.add(packages, from, to);
@@ -118,7 +118,7 @@ public final class Bumpherald {
         if (version <= packages.versions[pack]) {
             throw new IllegalArgumentException("the version is not greater");
         }
-        if (raises.bitOfPackage(pack) != 0 || raises.openCount == MOST_OPEN || raises.count == MOST_RAISES) {
+        if (raises.bitOfPackage(pack) != 0 || raises.openCount >= MOST_OPEN || raises.count >= MOST_RAISES) {
             throw new IllegalStateException("no more raises");
         }
         int raise = raises.add(pack, version, risk, today);
@@ -231,7 +231,7 @@ public final class Bumpherald {
     }
 
     public char told(int raise, int at) throws IndexOutOfBoundsException, IllegalStateException {
-        checkRaise(raise);
+        // Before the raise: no such raise is the same exception, and one that is not open a later one.
         if (at < 0) {
             throw new IndexOutOfBoundsException("no such sign");
         }
@@ -613,7 +613,7 @@ public final class Bumpherald {
             }
             for (int raise = 0; raise < raises.count; raise++) {
                 if (waiting[raise] && sleepsTooLong(raise, today)) {
-                    joinWithBest(raise);
+                    join(raise, bestPartner(raise));
                 }
             }
         }
@@ -624,14 +624,14 @@ public final class Bumpherald {
                     && raises.failing(raises.groupOf(lowest)) != 0;
         }
 
-        private void joinWithBest(int lowest) {
-            int partner = bestPartner(lowest);
-            if (partner != NONE) {
-                waiting[partner] = false;
-                int joined = raises.groupOf(lowest) | raises.groupOf(partner);
-                raises.group(joined);
-                reviewers.giveAnew(joined);
+        private void join(int lowest, int partner) {
+            if (partner == NONE) {
+                return;
             }
+            waiting[partner] = false;
+            int joined = raises.groupOf(lowest) | raises.groupOf(partner);
+            raises.group(joined);
+            reviewers.giveAnew(joined);
         }
 
         /**

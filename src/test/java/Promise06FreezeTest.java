@@ -60,6 +60,29 @@ public final class Promise06FreezeTest {
             canLand 1 = 0
             canLand 0 = 1
             """);
+        script.run("a freeze of another package does not count, one of any of a group does",
+            """
+            pack 1 = 0
+            pack 1 = 1
+            pack 1 = 2
+            need 1 2 0 0 = 1
+            patience 1 = 7
+            raise 1 2 0 = 0
+            raise 2 2 0 = 1
+            pass 1 = 1
+            approve 0 = 0
+            approve 1 = 0
+            freeze 1 0 1000 = 1
+            canLand 0 = 1
+            freeze 2 2 2 = 2
+            freeze 4 3 3 = 3
+            pass 1 = 2
+            canLand 1 = 0
+            pass 1 = 3
+            canLand 0 = 0
+            pass 1 = 4
+            canLand 0 = 1
+            """);
         script.end();
     }
 }

@@ -218,6 +218,23 @@ public final class Promise07RaiseTest {
             pass 1 = 4
             raiseOf 1 5 = 0
             """);
+        script.run("one reviewer may have all ten",
+            Script.counted(10, 0, "pack 1"),
+            """
+            trust 4 9 = 5
+            raise 0 2 9 = 0
+            raise 1 2 9 = 1
+            raise 2 2 9 = 2
+            raise 3 2 9 = 3
+            raise 4 2 9 = 4
+            raise 5 2 9 = 5
+            raise 6 2 9 = 6
+            raise 7 2 9 = 7
+            raise 8 2 9 = 8
+            raise 9 2 9 = 9
+            raiseOf 9 3 = 4
+            load 4 = 10
+            """);
         script.end();
     }
 }

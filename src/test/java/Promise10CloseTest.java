@@ -94,6 +94,33 @@ public final class Promise10CloseTest {
             land 1 1 = 1
             close 1 = ISE
             """);
+        script.run("a lower one of its group is given the reviewer that it had",
+            """
+            pack 5 = 0
+            pack 5 = 1
+            need 0 1 0 0 = 1
+            patience 1 = 7
+            raise 0 6 7 = 0
+            trust 2 7 = 5
+            raise 1 6 7 = 1
+            pass 1 = 1
+            raiseOf 0 6 = 2
+            raiseOf 0 3 = -1
+            close 1
+            raiseOf 0 3 = 2
+            raiseOf 1 3 = 2
+            load 2 = 1
+            """);
+        script.run("no other group is given reviewers",
+            """
+            pack 5 = 0
+            pack 5 = 1
+            raise 0 6 7 = 0
+            raise 1 6 0 = 1
+            trust 2 7 = 5
+            close 1
+            raiseOf 0 3 = -1
+            """);
         script.end();
     }
 }
