@@ -14,7 +14,7 @@ public final class Promise09LandTest {
             raise 1 3 0 = 2
             pass 1 = 1
             raiseOf 2 5 = 0
-            
+
             approve 0 = 0
             land 0 1 = ISE
             approve 2 = 0
@@ -48,7 +48,7 @@ public final class Promise09LandTest {
             raise 1 3 0 = 2
             pass 1 = 1
             raiseOf 2 5 = 0
-            
+
             approve 0 = 0
             approve 1 = 0
             approve 2 = 0

@@ -14,7 +14,7 @@ public final class Promise10CloseTest {
             raise 1 3 0 = 2
             pass 1 = 1
             raiseOf 2 5 = 0
-            
+
             close 0
             raiseOf 0 0 = 3
             raiseOf 0 5 = -1

@@ -30,7 +30,7 @@ public final class Promise14RaiseOfTest {
             raise 1 3 0 = 2
             pass 1 = 1
             raiseOf 2 5 = 0
-            
+
             raiseOf 0 5 = 0
             raiseOf 0 6 = 2
             raiseOf 2 5 = 0

@@ -14,7 +14,7 @@ public final class Promise16CanLandTest {
             raise 1 3 0 = 2
             pass 1 = 1
             raiseOf 2 5 = 0
-            
+
             canLand 0 = 0
             approve 2 = 0
             canLand 0 = 0

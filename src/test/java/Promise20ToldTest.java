@@ -40,7 +40,7 @@ public final class Promise20ToldTest {
             raise 1 3 0 = 2
             pass 1 = 1
             raiseOf 2 5 = 0
-            
+
             told 0 0 = 'A'
             told 2 0 = 'B'
             told 2 1 = '0'
