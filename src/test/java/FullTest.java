@@ -6,11 +6,11 @@ public final class FullTest {
     public static void main(String[] args) {
         Script script = new Script("all full");
         script.run("all that can be told, and all asked of it",
-            Script.counted(12, 0, "pack 5"),
+            Given.packs(12, 5),
             ring(),
-            Script.counted(8, 13, "need 11 10 -98 98"),
-            Script.counted(10, 1, "freeze 4095 500 1000"),
-            closed(30),
+            Script.each(13, 20, "need 11 10 -98 98 = @"),
+            Script.each(1, 10, "freeze 4095 500 1000 = @"),
+            Script.each(0, 29, "raise 0 6 0 = @; close @"),
             """
             patience 1 = 7
             raise 0 6 0 = 30
@@ -45,7 +45,7 @@ public final class FullTest {
             load 5 = 1
             """);
         script.run("all needs hold and no freeze is of today: a group of six lands",
-            Script.counted(12, 0, "pack 5"),
+            Given.packs(12, 5),
             """
             need 0 1 0 0 = 1
             need 1 2 0 0 = 2
@@ -53,8 +53,8 @@ public final class FullTest {
             need 3 4 0 0 = 4
             need 4 5 0 0 = 5
             """,
-            Script.counted(15, 6, "need 5 11 -1 0"),
-            Script.counted(10, 1, "freeze 4095 500 1000"),
+            Script.each(6, 20, "need 5 11 -1 0 = @"),
+            Script.each(1, 10, "freeze 4095 500 1000 = @"),
             """
             patience 1 = 7
             raise 0 6 0 = 0
@@ -92,7 +92,7 @@ public final class FullTest {
             fewest 9 = 8
             """);
         script.run("a group of ten, six of whom have reviewers",
-            Script.counted(10, 0, "pack 5"),
+            Given.packs(10, 5),
             """
             need 1 0 0 0 = 1
             need 2 0 0 0 = 2
@@ -144,7 +144,7 @@ public final class FullTest {
             fails 9 = 8
             """);
         script.run("numbers far off",
-            "pack 5 = 0\nraise 0 6 0 = 0",
+            "pack 5 = 0; raise 0 6 0 = 0",
             ofARaise(Integer.MIN_VALUE), ofARaise(-1), ofARaise(1), ofARaise(40), ofARaise(Integer.MAX_VALUE));
         script.end();
     }
@@ -153,15 +153,7 @@ public final class FullTest {
     private static String ring() {
         StringBuilder lines = new StringBuilder();
         for (int i = 0; i < 12; i++) {
-            lines.append("need " + i + " " + (i + 1) % 12 + " 0 0 = " + (i + 1) + "\n");
-        }
-        return lines.toString();
-    }
-
-    private static String closed(int raises) {
-        StringBuilder lines = new StringBuilder();
-        for (int i = 0; i < raises; i++) {
-            lines.append("raise 0 6 0 = " + i + "\nclose " + i + "\n");
+            lines.append("need " + i + " " + (i + 1) % 12 + " 0 0 = " + (i + 1) + ";");
         }
         return lines.toString();
     }
@@ -169,9 +161,9 @@ public final class FullTest {
     private static String ofARaise(int raise) {
         StringBuilder lines = new StringBuilder();
         for (String name : OF_A_RAISE) {
-            lines.append(name + " " + raise + " = IOOBE\n");
+            lines.append(name + " " + raise + " = IOOBE;");
         }
-        return lines + "raiseOf " + raise + " 0 = IOOBE\ntold " + raise + " 0 = IOOBE\nland " + raise
-                + " 1 = IOOBE\napprove " + raise + " = IOOBE\nclose " + raise + " = IOOBE\n";
+        return lines + "raiseOf " + raise + " 0 = IOOBE; told " + raise + " 0 = IOOBE; land " + raise
+                + " 1 = IOOBE; approve " + raise + " = IOOBE; close " + raise + " = IOOBE;";
     }
 }

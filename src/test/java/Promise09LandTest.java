@@ -1,23 +1,40 @@
 public final class Promise09LandTest {
 
+    private static final String READY = Given.JOINED + "approve 0 = 0; approve 2 = 0;";
+    private static final String ALONE = "pack 1 = 0; raise 0 2 0 = 0; approve 0 = 0;";
+
+    /** Six raises in a group, all approved: as many as there are reviewers. */
+    private static final String SIX = Given.packs(7, 1) + Script.each(1, 5, "need 0 @ 0 0 = @")
+            + "patience 1 = 7;" + Script.each(0, 5, "raise @ 2 0 = @") + "pass 5 = 5; raiseOf 5 6 = 6;"
+            + Script.each(0, 5, "approve @ = 0");
+
     public static void main(String[] args) {
         Script script = new Script("promise 9: land");
-        script.run("it passes: the new versions are there, and the raises are done",
-            """
-            pack 1 = 0
-            pack 1 = 1
-            pack 1 = 2
-            need 0 1 0 0 = 1
-            patience 1 = 7
-            raise 0 3 0 = 0
-            raise 2 4 0 = 1
-            raise 1 3 0 = 2
-            pass 1 = 1
-            raiseOf 2 5 = 0
+        passes(script);
+        failsTogether(script);
+        failsAlone(script);
+        OfARaise passing = new OfARaise(script, "land @ 1");
+        passing.noSuchRaise();
+        passing.notOpen();
+        OfARaise failing = new OfARaise(script, "land @ 0");
+        failing.noSuchRaise();
+        failing.notOpen();
+        cannot(script);
+        script.end();
+    }
 
-            approve 0 = 0
-            land 0 1 = ISE
-            approve 2 = 0
+    private static void passes(Script script) {
+        script.run("one alone", ALONE, """
+            land 0 1 = 1
+            version 0 = 2
+            raiseOf 0 0 = 1
+            raiseOf 0 3 = 0
+            raiseOf 0 4 = 1
+            raiseOf 0 5 = -1
+            raiseOf 0 6 = 0
+            load 0 = 0
+            """);
+        script.run("two, told by the higher one, and no raise besides", READY, """
             land 2 1 = 2
             version 0 = 3
             version 1 = 3
@@ -31,27 +48,38 @@ public final class Promise09LandTest {
             raiseOf 1 5 = 1
             load 0 = 0
             load 1 = 1
-            land 0 1 = ISE
+            load 2 = 0
             approve 1 = 0
             land 1 1 = 1
             version 2 = 4
             """);
-        script.run("it fails: each raise is in a group of its own, and not approved",
-            """
-            pack 1 = 0
-            pack 1 = 1
-            pack 1 = 2
-            need 0 1 0 0 = 1
-            patience 1 = 7
-            raise 0 3 0 = 0
-            raise 2 4 0 = 1
-            raise 1 3 0 = 2
-            pass 1 = 1
-            raiseOf 2 5 = 0
-
-            approve 0 = 0
+        script.run("two, told by the lower one", READY,
+                "land 0 1 = 2; version 0 = 3; version 1 = 3; raiseOf 2 0 = 1");
+        script.run("six", SIX, "land 3 1 = 6;", Script.each(0, 5, "version @ = 2; raiseOf @ 0 = 1; load @ = 0"),
+                "version 6 = 1");
+        script.run("to the greatest version",
+                "pack 98 = 0; raise 0 99 0 = 0; approve 0 = 0; land 0 1 = 1; version 0 = 99");
+        script.run("the fortieth raise", Given.FORTY,
+                "approve 39 = 0; land 39 1 = 1; version 9 = 2; raiseOf 39 0 = 1");
+        script.run("ten, one by one", Given.packs(10, 1), Script.each(0, 9, "raise @ 2 0 = @"),
+                Script.each(0, 9, "approve @ = 0; land @ 1 = 1; version @ = 2"), "load 0 = 0");
+        script.run("the needs of others are as the new versions are", Given.packs(2, 5), """
+            need 0 1 0 9 = 1
+            raise 0 6 0 = 0
+            fails 0 = 1
+            raise 1 6 0 = 1
+            fails 1 = 0
             approve 1 = 0
-            approve 2 = 0
+            land 1 1 = 1
+            fails 0 = 0
+            approve 0 = 0
+            land 0 1 = 1
+            """);
+    }
+
+    private static void failsTogether(Script script) {
+        script.run("each is in a group of its own, and not approved", READY, """
+            approve 1 = 0
             land 0 0 = 2
             version 0 = 1
             version 1 = 1
@@ -66,12 +94,40 @@ public final class Promise09LandTest {
             raiseOf 0 3 = 0
             raiseOf 2 3 = 2
             raiseOf 1 4 = 1
+            canLand 0 = 0
             """);
-        script.run("one that was alone has failed, and is told as approved still",
-            """
-            pack 1 = 0
-            raise 0 2 0 = 0
+        script.run("told by the higher one", READY,
+                "land 2 0 = 2; raiseOf 0 5 = 0; raiseOf 2 5 = 2; raiseOf 0 4 = 0");
+        script.run("six", SIX, "land 5 0 = 6;",
+                Script.each(0, 5, "version @ = 1; raiseOf @ 0 = 0; raiseOf @ 3 = @; raiseOf @ 4 = 0; raiseOf @ 5 = @"));
+        script.run("they are as old as before, and joined again on the next day", READY, """
+            land 0 0 = 2
+            raiseOf 0 6 = 1
+            pass 1 = 2
+            raiseOf 0 6 = 2
+            raiseOf 0 3 = 0
+            raiseOf 2 3 = 2
+            raiseOf 0 4 = 0
+            """);
+        script.run("parted, they can fail alone, or be closed", Given.packs(2, 5), """
+            need 0 1 -9 0 = 1
+            need 0 1 0 9 = 2
+            patience 1 = 7
+            raise 0 6 0 = 0
+            raise 1 6 0 = 1
+            pass 1 = 1
             approve 0 = 0
+            approve 1 = 0
+            land 0 0 = 2
+            fails 0 = 1
+            close 0
+            raiseOf 1 0 = 0
+            fails 1 = 1
+            """);
+    }
+
+    private static void failsAlone(Script script) {
+        script.run("it has failed, and is told as approved still", ALONE, """
             land 0 0 = 1
             raiseOf 0 0 = 2
             raiseOf 0 3 = 0
@@ -80,45 +136,44 @@ public final class Promise09LandTest {
             raiseOf 0 6 = 0
             version 0 = 1
             load 0 = 0
-            land 0 0 = ISE
-            raise 0 2 0 = 1
             """);
-        script.run("no such raise",
-            """
-            land 0 1 = IOOBE
-            pack 1 = 0
-            raise 0 2 0 = 0
-            land 1 1 = IOOBE
-            land -1 0 = IOOBE
-            land 2147483647 0 = IOOBE
-            """);
-        script.run("not open, or a group that cannot land, whether it would pass or not",
-            """
-            pack 1 = 0
-            pack 1 = 1
-            need 0 1 0 0 = 1
-            raise 0 2 0 = 0
-            approve 0 = 0
-            land 0 1 = ISE
-            land 0 0 = ISE
-            raiseOf 0 0 = 0
-            close 0
-            land 0 1 = ISE
-            freeze 1 0 0 = 1
-            raise 0 2 0 = 1
-            raise 1 2 0 = 2
+        script.run("a group of one, that was of two, fails for good", Given.packs(2, 5), """
+            need 0 1 0 9 = 1
             patience 1 = 7
+            raise 0 6 0 = 0
+            raise 1 6 0 = 1
             pass 1 = 1
-            land 2 1 = ISE
+            raiseOf 0 6 = 2
             approve 1 = 0
-            land 2 1 = ISE
-            approve 2 = 0
-            freeze 2 1 1 = 2
-            land 1 1 = ISE
-            pass 1 = 2
-            land 1 1 = 2
-            version 1 = 2
+            close 0
+            land 1 0 = 1
+            raiseOf 1 0 = 2
+            raiseOf 1 4 = 1
+            version 1 = 5
             """);
-        script.end();
+    }
+
+    private static void cannot(Script script) {
+        script.refused("not a group that does not go", Given.packs(2, 5) + """
+            need 0 1 0 0 = 1
+            raise 0 6 0 = 0
+            approve 0 = 0
+            """, "land 0 1 = ISE", "land 0 0 = ISE");
+        script.refused("not a raise that is not approved", "pack 1 = 0; raise 0 2 0 = 0", "land 0 1 = ISE",
+                "land 0 0 = ISE");
+        script.refused("not a group the lower one of which is not approved", Given.JOINED + "approve 2 = 0",
+                "land 0 1 = ISE", "land 2 1 = ISE", "land 0 0 = ISE", "land 2 0 = ISE");
+        script.refused("not a group the higher one of which is not approved", Given.JOINED + "approve 0 = 0",
+                "land 0 1 = ISE", "land 2 1 = ISE", "land 0 0 = ISE", "land 2 0 = ISE");
+        script.refused("not a group of six, five of which are approved", Given.packs(6, 1)
+                + Script.each(1, 5, "need 0 @ 0 0 = @") + "patience 1 = 7;" + Script.each(0, 5, "raise @ 2 0 = @")
+                + "pass 5 = 5;" + Script.each(0, 4, "approve @ = 0"),
+                "land 0 1 = ISE", "land 5 1 = ISE", "land 0 0 = ISE");
+        script.refused("not one that is frozen today", ALONE + "freeze 1 0 0 = 1", "land 0 1 = ISE",
+                "land 0 0 = ISE");
+        script.refused("not a group one package of which is frozen today", READY + "freeze 2 1 1 = 1",
+                "land 0 1 = ISE", "land 2 1 = ISE", "land 0 0 = ISE", "land 2 0 = ISE");
+        script.refused("not one without a reviewer", "pack 1 = 0; raise 0 2 9 = 0", "land 0 1 = ISE",
+                "land 0 0 = ISE");
     }
 }

@@ -1,9 +1,10 @@
-/**
- * Runs of calls written as text, each run on a new object. A line is a call
- * and what is due: "pack 7 = 0", "land 0 1 = ISE", "close 0" (answers nothing),
- * "told 0 1 = '9'". A # begins a remark.
- */
+import java.util.List;
+
+/** Runs of calls, each run on an object of its own, as lines of text (see Line). */
 final class Script {
+
+    /** What the document has an object used for; what later calls answer is free. */
+    private static final int MOST_CALLS = 512;
 
     private final String title;
     private int calls = 0;
@@ -13,23 +14,45 @@ final class Script {
         this.title = title;
     }
 
+    /** A line for each number from one to another, that stands where the line has a @. */
+    static String each(int from, int to, String line) {
+        StringBuilder lines = new StringBuilder();
+        for (int i = from; i <= to; i++) {
+            lines.append(line.replace("@", Integer.toString(i))).append('\n');
+        }
+        return lines.toString();
+    }
+
     void run(String about, String... parts) {
-        Bumpherald bot = new Bumpherald();
-        for (String line : String.join("\n", parts).split("\n")) {
-            String call = line.replaceFirst("#.*", "").trim();
-            if (!call.isEmpty()) {
-                due(bot, about, call);
-            }
+        runOn(new Bumpherald(), about, parts);
+    }
+
+    /** For several objects side by side. */
+    void runOn(Bumpherald bot, String about, String... parts) {
+        List<Line> lines = Line.all(parts);
+        mustFit(about, lines.size());
+        for (Line line : lines) {
+            due(about, line, line.answerOf(bot));
         }
     }
 
-    /** So many times the same call, whose answers count up from the first one. */
-    static String counted(int times, int first, String call) {
-        StringBuilder lines = new StringBuilder();
-        for (int i = 0; i < times; i++) {
-            lines.append(call).append(" = ").append(first + i).append('\n');
+    /**
+     * Calls that are refused, each after the same ones on an object of its own:
+     * what is due is thrown, and from then on that object answers as one that
+     * was never asked.
+     */
+    void refused(String about, String before, String... calls) {
+        List<Line> first = Line.all(before);
+        List<List<Line>> probes = Probes.after(first);
+        for (Line line : Line.all(calls)) {
+            if (!line.isRefused()) {
+                throw new AssertionError(about + ": " + line + " is not refused");
+            }
+            for (List<Line> probe : probes) {
+                mustFit(about, first.size() + 1 + probe.size());
+                refusedOnce(about, first, line, probe);
+            }
         }
-        return lines.toString();
     }
 
     void end() {
@@ -39,35 +62,34 @@ final class Script {
         }
     }
 
-    private void due(Bumpherald bot, String about, String call) {
-        String[] sides = call.split(" = ");
-        String[] words = sides[0].trim().split(" +");
-        int[] given = new int[words.length - 1];
-        for (int i = 0; i < given.length; i++) {
-            given[i] = Integer.parseInt(words[i + 1]);
+    private void refusedOnce(String about, List<Line> first, Line refused, List<Line> probe) {
+        Bumpherald asked = new Bumpherald();
+        Bumpherald neverAsked = new Bumpherald();
+        for (Line line : first) {
+            due(about, line, line.answerOf(asked));
+            line.answerOf(neverAsked);
         }
-        String want = sides.length == 1 ? "void" : wanted(sides[1].trim());
-        String got = Calls.answer(bot, words[0], given);
-        calls++;
-        if (!got.equals(want)) {
-            wrong++;
-            System.out.println(title + ", " + about + ": " + sides[0] + " answered " + got + ", due is " + want);
+        due(about, refused, refused.answerOf(asked));
+        for (Line line : probe) {
+            same(about + ", after " + refused, line, line.answerOf(asked), line.answerOf(neverAsked));
         }
     }
 
-    private static String wanted(String text) {
-        if (text.startsWith("'")) {
-            return Integer.toString(text.charAt(1));
+    private void due(String about, Line line, String got) {
+        same(about, line, got, line.due());
+    }
+
+    private void same(String about, Line line, String got, String want) {
+        calls++;
+        if (!got.equals(want)) {
+            wrong++;
+            System.out.println(title + ", " + about + ": " + line + " answered " + got + ", due is " + want);
         }
-        switch (text) {
-            case "IOOBE":
-                return "IndexOutOfBoundsException";
-            case "IAE":
-                return "IllegalArgumentException";
-            case "ISE":
-                return "IllegalStateException";
-            default:
-                return text;
+    }
+
+    private static void mustFit(String about, int calls) {
+        if (calls > MOST_CALLS) {
+            throw new AssertionError(about + ": " + calls + " calls of one object");
         }
     }
 }
