@@ -20,7 +20,7 @@ final class Probes {
         probes.add(Line.all(numbers(), Script.each(0, raises, "fails @; canLand @; fewest @; fewestAnew @")));
         probes.add(Line.all(all(raises)));
         probes.add(Line.all(Script.each(0, raises, "told @ 0; told @ 1; told @ 2; told @ 3; told @ 4")));
-        probes.add(Line.all(rules()));
+        probes.add(Line.all(rules(), "fails " + raises + "; fails " + (raises + 1)));
         probes.add(Line.all("pass 1;", moving(raises), "pass 1;", moving(raises)));
         probes.add(Line.all("pass 100;", moving(raises)));
         probes.add(Line.all(Script.each(0, raises, "approve @"), Script.each(0, raises, "land @ 1"), numbers()));

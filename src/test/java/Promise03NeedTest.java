@@ -82,6 +82,8 @@ public final class Promise03NeedTest {
         script.run("twenty of them", TWO, Script.each(1, 20, "need 0 1 2 2 = @"), "raise 0 8 0 = 0; fails 0 = 20");
         String full = TWO + Script.each(1, 20, "need 0 1 2 2 = @");
         script.refused("no twenty-first", full, "need 0 1 2 2 = ISE", "need 1 0 -98 98 = ISE");
+        script.refused("no twenty-first, where a raise is open", full + "raise 0 8 0 = 0; fails 0 = 20",
+                "need 0 1 -98 98 = ISE", "need 0 1 -1 -1 = ISE");
         script.refused("no twenty-first, that does not hold either", full, "need 0 1 0 0 = ISE");
         script.refused("a range out of range comes first, where there are twenty", full,
                 "need 0 1 -99 98 = IAE", "need 0 1 2 1 = IAE", "need 0 1 2 99 = IAE", "need 1 1 0 0 = IAE");

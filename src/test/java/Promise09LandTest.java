@@ -59,6 +59,14 @@ public final class Promise09LandTest {
                 "version 6 = 1");
         script.run("to the greatest version",
                 "pack 98 = 0; raise 0 99 0 = 0; approve 0 = 0; land 0 1 = 1; version 0 = 99");
+        script.run("no other group is given reviewers", Given.packs(2, 5), """
+            raise 0 6 7 = 0
+            raise 1 6 0 = 1
+            trust 5 7 = 5
+            approve 1 = 0
+            land 1 1 = 1
+            raiseOf 0 3 = -1
+            """);
         script.run("the fortieth raise", Given.FORTY,
                 "approve 39 = 0; land 39 1 = 1; version 9 = 2; raiseOf 39 0 = 1");
         script.run("ten, one by one", Given.packs(10, 1), Script.each(0, 9, "raise @ 2 0 = @"),
@@ -100,14 +108,48 @@ public final class Promise09LandTest {
                 "land 2 0 = 2; raiseOf 0 5 = 0; raiseOf 2 5 = 2; raiseOf 0 4 = 0");
         script.run("six", SIX, "land 5 0 = 6;",
                 Script.each(0, 5, "version @ = 1; raiseOf @ 0 = 0; raiseOf @ 3 = @; raiseOf @ 4 = 0; raiseOf @ 5 = @"));
-        script.run("they are as old as before, and joined again on the next day", READY, """
+        script.run("they are as old as before, and joined again on the next day", Given.packs(2, 5), """
+            need 0 1 0 0 = 1
+            raise 0 6 0 = 0
+            raise 1 6 0 = 1
+            pass 7 = 7
+            approve 0 = 0
+            approve 1 = 0
             land 0 0 = 2
             raiseOf 0 6 = 1
-            pass 1 = 2
+            patience 8 = 7
+            pass 1 = 8
             raiseOf 0 6 = 2
             raiseOf 0 3 = 0
-            raiseOf 2 3 = 2
+            raiseOf 1 3 = 1
             raiseOf 0 4 = 0
+            """);
+        script.run("they keep their reviewers, whatever trust these have now", Given.packs(2, 5), """
+            need 0 1 0 0 = 1
+            patience 1 = 7
+            raise 0 6 3 = 0
+            raise 1 6 3 = 1
+            pass 1 = 1
+            approve 0 = 0
+            approve 1 = 0
+            trust 0 0 = 5
+            trust 1 2 = 5
+            land 0 0 = 2
+            raiseOf 0 3 = 0
+            raiseOf 1 3 = 1
+            """);
+        script.run("no other group is given reviewers", Given.packs(3, 5), """
+            need 0 1 0 0 = 1
+            patience 1 = 7
+            raise 2 6 7 = 0
+            raise 0 6 0 = 1
+            raise 1 6 0 = 2
+            trust 5 7 = 5
+            pass 1 = 1
+            approve 1 = 0
+            approve 2 = 0
+            land 1 0 = 2
+            raiseOf 0 3 = -1
             """);
         script.run("parted, they can fail alone, or be closed", Given.packs(2, 5), """
             need 0 1 -9 0 = 1

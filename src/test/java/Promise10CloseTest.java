@@ -170,7 +170,14 @@ public final class Promise10CloseTest {
             raiseOf 2 4 = 1
             load 0 = 0
             """);
-        script.run("no other group is given reviewers", Given.packs(2, 5), """
+        script.run("no other group is given reviewers by one of a group", Given.JOINED, """
+            pack 1 = 3
+            raise 3 2 7 = 3
+            trust 2 7 = 5
+            close 0
+            raiseOf 3 3 = -1
+            """);
+        script.run("no other group is given reviewers by one alone", Given.packs(2, 5), """
             raise 0 6 7 = 0
             raise 1 6 0 = 1
             trust 2 7 = 5

@@ -329,6 +329,16 @@ public final class Promise11PassTest {
             load 0 = 1
             load 1 = 2
             """);
+        script.run("no other group is given reviewers", Given.packs(3, 5), """
+            need 0 1 0 0 = 1
+            raise 2 6 7 = 0
+            raise 0 6 0 = 1
+            raise 1 6 0 = 2
+            trust 5 7 = 5
+            pass 7 = 7
+            raiseOf 1 6 = 2
+            raiseOf 0 3 = -1
+            """);
         script.run("those who have different ones keep them, and are approved still", SLEEPERS, """
             approve 0 = 0
             approve 1 = 0
