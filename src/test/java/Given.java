@@ -31,6 +31,9 @@ final class Given {
     /** Twelve packages, and raises 0 to 39: those from 30 on, of the packages 0 to 9, are OPEN. */
     static final String FORTY = packs(12, 1) + closed(30) + openTen();
 
+    /** The raises 32 and 39, the third and the tenth of those that are OPEN, are in a group. */
+    static final String FORTY_JOINED = FORTY + "need 2 9 0 9 = 1; pass 7 = 7; raiseOf 39 5 = 32; raiseOf 32 6 = 2;";
+
     private Given() {
     }
 

@@ -129,6 +129,10 @@ public final class Promise06FreezeTest {
             pass 1 = 4
             canLand 0 = 1
             """);
+        script.run("of the tenth raise that is open", Given.FORTY,
+                "approve 39 = 0; freeze 512 0 0 = 1; canLand 39 = 0; land 39 1 = ISE; pass 1 = 1; canLand 39 = 1");
+        script.run("of the tenth raise that is open, which is one of a group", Given.FORTY_JOINED,
+                "approve 32 = 0; approve 39 = 0; canLand 32 = 1; freeze 512 7 7 = 1; canLand 32 = 0; canLand 39 = 0");
         script.run("of the package of a raise, not of its number", Given.packs(2, 1), """
             raise 1 2 0 = 0
             approve 0 = 0

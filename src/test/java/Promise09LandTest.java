@@ -69,6 +69,17 @@ public final class Promise09LandTest {
             """);
         script.run("the fortieth raise", Given.FORTY,
                 "approve 39 = 0; land 39 1 = 1; version 9 = 2; raiseOf 39 0 = 1");
+        script.run("a group with the fortieth raise", Given.FORTY_JOINED, """
+            approve 32 = 0
+            land 32 1 = ISE
+            approve 39 = 0
+            land 32 1 = 2
+            version 2 = 2
+            version 9 = 2
+            raiseOf 32 0 = 1
+            raiseOf 39 0 = 1
+            raiseOf 38 0 = 0
+            """);
         script.run("ten, one by one", Given.packs(10, 1), Script.each(0, 9, "raise @ 2 0 = @"),
                 Script.each(0, 9, "approve @ = 0; land @ 1 = 1; version @ = 2"), "load 0 = 0");
         script.run("the needs of others are as the new versions are", Given.packs(2, 5), """
@@ -108,6 +119,17 @@ public final class Promise09LandTest {
                 "land 2 0 = 2; raiseOf 0 5 = 0; raiseOf 2 5 = 2; raiseOf 0 4 = 0");
         script.run("six", SIX, "land 5 0 = 6;",
                 Script.each(0, 5, "version @ = 1; raiseOf @ 0 = 0; raiseOf @ 3 = @; raiseOf @ 4 = 0; raiseOf @ 5 = @"));
+        script.run("a group with the fortieth raise", Given.FORTY_JOINED, """
+            approve 32 = 0
+            approve 39 = 0
+            land 32 0 = 2
+            version 9 = 1
+            raiseOf 32 5 = 32
+            raiseOf 39 5 = 39
+            raiseOf 32 4 = 0
+            raiseOf 39 4 = 0
+            raiseOf 39 0 = 0
+            """);
         script.run("they are as old as before, and joined again on the next day", Given.packs(2, 5), """
             need 0 1 0 0 = 1
             raise 0 6 0 = 0

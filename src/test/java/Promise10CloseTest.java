@@ -1,5 +1,10 @@
 public final class Promise10CloseTest {
 
+    /** The raises 32 and 39, of a risk of 7, and eight others are OPEN; reviewer 4 alone may have the two. */
+    private static final String RISKY_FORTY = Given.packs(12, 1) + Given.closed(30) + "need 2 9 0 9 = 1; trust 4 7 = 5;"
+            + Script.each(0, 1, "raise @ 2 0 = 3@") + "raise 2 2 7 = 32;" + Script.each(3, 8, "raise @ 2 0 = 3@")
+            + "raise 9 2 7 = 39; pass 7 = 7; raiseOf 39 5 = 32; raiseOf 32 3 = 4; raiseOf 39 3 = -1;";
+
     /** Raises 0 to 2 of the packages 1, 0 and 2 in a group: 0 needs both others. */
     private static final String THREE = Given.packs(3, 5) + """
         need 0 1 0 0 = 1
@@ -150,6 +155,49 @@ public final class Promise10CloseTest {
             close 0
             raiseOf 1 3 = 4
             raiseOf 2 3 = -1
+            """);
+        script.run("the tenth of those that are open, when the other one is closed", RISKY_FORTY,
+                "close 32; raiseOf 39 5 = 39; raiseOf 39 6 = 1; raiseOf 39 3 = 4; raiseOf 39 4 = 0; load 4 = 1");
+        script.run("not the other one, when the tenth without a reviewer is closed", RISKY_FORTY,
+                "approve 32 = 0; close 39; raiseOf 32 6 = 1; raiseOf 32 3 = 4; raiseOf 32 4 = 1; raiseOf 39 3 = -1");
+        script.run("to anybody who may by now, though the closed one had none itself", Given.packs(3, 5), """
+            need 0 1 0 0 = 1
+            need 0 2 0 0 = 2
+            patience 1 = 7
+            raise 0 6 9 = 0
+            raise 1 6 8 = 1
+            raise 2 6 7 = 2
+            pass 1 = 1
+            raiseOf 0 6 = 3
+            trust 5 8 = 5
+            trust 1 7 = 5
+            raiseOf 1 3 = -1
+            close 0
+            raiseOf 0 3 = -1
+            raiseOf 1 3 = 5
+            raiseOf 2 3 = 1
+            """);
+        script.run("the closed one counts no more among those he has", Given.packs(8, 1), """
+            need 0 6 0 0 = 1
+            need 0 7 0 0 = 2
+            patience 1 = 7
+            trust 1 7 = 5
+            trust 0 9 = 5
+            raise 0 2 9 = 0
+            raise 1 2 0 = 1
+            raise 6 2 9 = 2
+            raise 7 2 8 = 3
+            raiseOf 1 3 = 1
+            raiseOf 2 3 = 0
+            raiseOf 3 3 = 0
+            pass 1 = 1
+            raiseOf 0 6 = 3
+            raiseOf 2 3 = -1
+            raiseOf 3 3 = -1
+            trust 1 9 = 7
+            close 0
+            raiseOf 2 3 = 0
+            raiseOf 3 3 = 1
             """);
         script.run("to none, if nobody may still", Given.packs(2, 5), """
             need 0 1 0 0 = 1

@@ -64,6 +64,24 @@ public final class Promise11PassTest {
                 raiseOf 39 5 = 32
                 raiseOf 38 6 = 1
                 """);
+        script.run("the fortieth raise, which does not go, with a lower one, which does", Given.FORTY, """
+            need 9 2 0 9 = 1
+            fails 39 = 1
+            fails 32 = 0
+            pass 6 = 6
+            raiseOf 39 6 = 1
+            pass 1 = 7
+            raiseOf 39 5 = 32
+            raiseOf 32 6 = 2
+            """);
+        script.run("a lower raise, which does not go, with the fortieth, which does", Given.FORTY, """
+            need 2 9 0 9 = 1
+            fails 32 = 1
+            fails 39 = 0
+            pass 7 = 7
+            raiseOf 39 5 = 32
+            raiseOf 32 6 = 2
+            """);
         script.run("with forty raises, none of them open", "pack 1 = 0", Given.closed(40), "pass 100 = 100; pass 1 = 101");
         script.run("nothing is there to be joined", "pass 100 = 100; pack 1 = 0; pass 100 = 200");
         script.run("several days are days one by one", Given.packs(3, 5), """
@@ -415,6 +433,63 @@ public final class Promise11PassTest {
             raiseOf 0 3 = -1
             raiseOf 1 3 = 2
             raiseOf 1 4 = 1
+            """);
+        script.run("all that he has count, whatever the places among those that are open", Given.packs(4, 1), """
+            need 1 3 0 9 = 1
+            raise 0 2 0 = 0
+            raise 1 2 7 = 1
+            close 0
+            raise 2 2 0 = 2
+            raise 3 2 0 = 3
+            raiseOf 2 3 = 0
+            raiseOf 3 3 = 1
+            trust 0 7 = 5
+            trust 2 7 = 5
+            pass 7 = 7
+            raiseOf 1 6 = 2
+            raiseOf 1 3 = 2
+            """);
+        script.run("none who reviews another one of the group, whatever the places among those that are open",
+                Given.packs(3, 1), """
+            need 1 2 0 9 = 1
+            raise 0 2 0 = 0
+            raise 1 2 7 = 1
+            close 0
+            trust 4 7 = 5
+            raise 2 2 7 = 2
+            raiseOf 2 3 = 4
+            pass 7 = 7
+            raiseOf 1 6 = 2
+            raiseOf 1 3 = -1
+            raiseOf 2 3 = 4
+            """);
+        script.run("one who reviews the fortieth raise, the tenth that is open, may not have a lower one of its group",
+                Given.packs(10, 1), Given.closed(30), "need 2 9 0 9 = 1;", Script.each(0, 1, "raise @ 2 0 = 3@"),
+                "raise 2 2 7 = 32;", Script.each(3, 8, "raise @ 2 0 = 3@"), """
+            trust 2 7 = 5
+            raise 9 2 7 = 39
+            raiseOf 39 3 = 2
+            approve 39 = 0
+            pass 7 = 7
+            raiseOf 32 6 = 2
+            raiseOf 32 3 = -1
+            raiseOf 39 3 = 2
+            raiseOf 39 4 = 1
+            """);
+        script.run("one who reviews a lower raise of the group has the fortieth no more", Given.packs(2, 1),
+                Given.closed(38), """
+            need 0 1 0 0 = 1
+            trust 2 7 = 5
+            raise 0 2 7 = 38
+            raise 1 2 7 = 39
+            approve 39 = 0
+            load 2 = 2
+            pass 7 = 7
+            raiseOf 38 6 = 2
+            raiseOf 38 3 = 2
+            raiseOf 39 3 = -1
+            raiseOf 39 4 = 0
+            load 2 = 1
             """);
     }
 }
